@@ -11,6 +11,7 @@ public final class ShapeTest {
         wrongMarks();
         speed();
         wrongSyllables();
+        fullReading();
         Check.end();
     }
 
@@ -213,6 +214,44 @@ public final class ShapeTest {
         for (int what = 0; what <= 5; what++) {
             Check.row("right", x, what, new int[][] {{10, 10}, {50, 50}, {5, 5}, {0, 0}, {0, 0}, {10, 10}}[what]);
         }
+    }
+
+    /** 16 words of 5 syllables: every row is full. */
+    private static void fullReading() {
+        VoiceShaper x = new VoiceShaper();
+        for (int n = 1; n <= 16; n++) {
+            Check.due("word " + n, x.word(5, 4, 0, n % 2 == 0, false), n);
+        }
+        Check.due("rules", Check.rules(x, "set length word + 1; set height place + 40; set power accent;"), 0);
+        Check.yes("mark on the last", x.hand(79, 1, 99));
+        Check.no("mark beyond", x.hand(80, 1, 99));
+        x.ideal(5);
+        Check.due("each alone", x.phrases(), 16);
+        Check.due("cost", x.phrase(15, 4), 15);
+        Check.due("pause", x.pause(14, 1000), 66);
+        Check.due("the first ten have one more", x.pause(9, 1000), 67);
+        Check.due("the last has none", x.pause(15, 1000), -1);
+        x.ideal(20);
+        Check.due("by four", x.phrases(), 4);
+        Check.due("cost", x.phrase(3, 4), 3);
+        x.manner(0, 0, 99, 10);
+        for (int i = 0; i < 80; i++) {
+            int near = 99 - 10 * (79 - i);
+            int down = i % 20 == 0 && i > 0 ? 49 : 0;
+            Check.due("length of " + i, Check.shape(x, i, 5), i / 5 + 1);
+            Check.due("height of " + i, Check.shape(x, i, 1), Math.max(Math.max(i % 20 + 40, near), down));
+            Check.due("power of " + i, Check.shape(x, i, 2), i % 20 == 19 ? 1 : 0);
+            Check.due("phrase of " + i, Check.shape(x, i, 4), i / 20);
+        }
+        Check.throwsNone("full", x, 80, 0);
+        Check.due("fit", x.fit(), 1);
+        Check.due("a reading more", x.reading(), 1);
+        Check.due("alike", x.apart(0, 1), -1);
+        Check.due("none more", x.word(1, 0, 0, false, false), -1);
+        Check.yes("the last is changed", x.change(15, 4, 3, 0, true, false));
+        Check.due("syllables", x.count(3), 79);
+        Check.due("marks", x.count(7), 0);
+        Check.throwsNone("shorter", x, 79, 0);
     }
 
     private static void told(VoiceShaper x, String e, int... want) {
