@@ -1,7 +1,12 @@
+import java.util.ArrayList;
+import java.util.List;
+
 /** Compares answers with what is due; end() leaves with exit code 1 if one was wrong. */
 final class Check {
     private static int asked = 0;
     private static int wrong = 0;
+    private static final List<String> QUOTES = new ArrayList<>();
+    private static String about = "";
 
     private Check() {
     }
@@ -9,9 +14,32 @@ final class Check {
     static void due(String what, long got, long want) {
         asked++;
         if (got != want) {
-            wrong++;
-            System.out.println(what + " answered " + got + ", due is " + want);
+            wrong(what + " answered " + got + ", due is " + want);
         }
+    }
+
+    static void same(String what, String got, String want) {
+        asked++;
+        if (!got.equals(want)) {
+            wrong(what + ":\n  answered " + got + "\n  due is   " + want);
+        }
+    }
+
+    private static void wrong(String what) {
+        wrong++;
+        System.out.println(about + what);
+    }
+
+    /** Begins the test of one sentence of the document; what is wrong from here on is told with it. */
+    static void quote(String sentence) {
+        QUOTES.add(sentence);
+        about = "[" + sentence + "] ";
+    }
+
+    /** Ends the last of these tests, and tells the sentences of all. */
+    static List<String> endQuotes() {
+        about = "";
+        return QUOTES;
     }
 
     static void yes(String what, boolean got) {
